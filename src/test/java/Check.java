@@ -1,10 +1,5 @@
-/** What the tests share: counts the answers that are not as due and ends with exit code 1 if any. */
+/** Counts the answers that are not as due, prints the first of them, and ends with exit code 1 if any. */
 final class Check {
-    /** A call whose answer or exception is looked at. */
-    interface Call {
-        long answer();
-    }
-
     private static final int MOST_PRINTED = 20;
 
     private static int looks = 0;
@@ -12,60 +7,30 @@ final class Check {
 
     private Check() {}
 
-    static void due(String call, long want, Call made) {
+    static void due(String what, String got, String want) {
         looks++;
-        try {
-            long got = made.answer();
-            if (got != want) {
-                tell(call, "answered " + got, String.valueOf(want));
-            }
-        } catch (RuntimeException thrown) {
-            tell(call, "threw " + thrown, String.valueOf(want));
+        if (!got.equals(want)) {
+            wrong++;
+            tell(what + ": " + got + ", due is " + want);
         }
-    }
-
-    /** The class must be just the one that is due, not one below it. */
-    static void dueThrow(String call, Class<? extends RuntimeException> want, Call made) {
-        looks++;
-        try {
-            tell(call, "answered " + made.answer(), want.getName());
-        } catch (RuntimeException thrown) {
-            if (thrown.getClass() != want) {
-                tell(call, "threw " + thrown, want.getName());
-            }
-        }
-    }
-
-    static void dueIllegalArgument(String call, Call made) {
-        dueThrow(call, IllegalArgumentException.class, made);
-    }
-
-    static void dueIndexOutOfBounds(String call, Call made) {
-        dueThrow(call, IndexOutOfBoundsException.class, made);
-    }
-
-    static void dueUnsupported(String call, Call made) {
-        dueThrow(call, UnsupportedOperationException.class, made);
     }
 
     static void dueTrue(String what, boolean holds) {
-        looks++;
-        if (!holds) {
-            tell(what, "does not hold", "that it holds");
-        }
+        due(what, String.valueOf(holds), "true");
     }
 
+    /** A test that looked at nothing has failed too. */
     static void end() {
-        System.out.println(wrong == 0 ? looks + " answers are as due" : wrong + " of " + looks + " answers are not as due");
-        if (wrong != 0) {
+        if (wrong != 0 || looks == 0) {
+            System.out.println(wrong + " of " + looks + " answers are not as due");
             System.exit(1);
         }
+        System.out.println(looks + " answers are as due");
     }
 
-    private static void tell(String call, String got, String want) {
-        wrong++;
+    private static void tell(String line) {
         if (wrong <= MOST_PRINTED) {
-            System.out.println(call + " " + got + ", due is " + want);
+            System.out.println(line);
         }
     }
 }

@@ -21,8 +21,8 @@ final class FaceTest {
         Class<?> face = StampTables.class;
         Check.dueTrue("the class is public and final",
                 Modifier.isPublic(face.getModifiers()) && Modifier.isFinal(face.getModifiers()));
-        Check.due("constructors", 1, () -> face.getDeclaredConstructors().length);
-        Check.due("public constructors", 1, () -> face.getConstructors().length);
+        Check.dueTrue("one constructor", face.getDeclaredConstructors().length == 1);
+        Check.dueTrue("a public constructor", face.getConstructors().length == 1);
         methodsAreTheFace(face);
         fieldsArePrivate(face);
         Check.end();

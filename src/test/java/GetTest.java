@@ -1,45 +1,56 @@
-/** Promise 4: get tells the number of a key. */
+/** Promise 4: get. */
 final class GetTest {
     public static void main(String[] args) {
-        everyKeyOfEveryTable();
-        noNumber();
-        wrongArguments();
+        theNumberOfAKey();
+        none();
+        wrongTable();
+        wrongKey();
         Check.end();
     }
 
-    private static void everyKeyOfEveryTable() {
-        StampTables x = Filled.toTheLimit();
-        for (int t = 0; t < Filled.LIMIT; t += 57) {
-            int table = t;
-            for (int k = 0; k <= 1023; k++) {
-                int key = k;
-                String call = "get(" + table + ", " + key + ")";
-                if (key < table) {
-                    Check.due(call, 10L * key, () -> x.get(table, key));
-                } else {
-                    Check.dueUnsupported(call, () -> x.get(table, key));
-                }
+    /** "The number of a KEY." */
+    private static void theNumberOfAKey() {
+        Filled.lookAtEveryKey((x, table, key) -> {
+            if (key < table) {
+                x.get(table, key).is(10L * key);
+            } else {
+                x.get(table, key).isUnsupported();
             }
+        });
+    }
+
+    /** "UnsupportedOperationException: none." Never written, or deleted; the number 0 is not none. */
+    private static void none() {
+        Subject x = new Subject();
+        x.put(0, 5, 0, 3).is(1);
+        x.delete(1, 5, 4).is(2);
+        x.delete(0, 5, 4).is(3);
+        x.get(0, 5).isUnsupported();
+        x.get(1, 5).is(0);
+        x.get(2, 5).isUnsupported();
+        x.get(3, 5).isUnsupported();
+        x.get(1, 4).isUnsupported();
+        x.get(1, 6).isUnsupported();
+    }
+
+    /** "IllegalArgumentException: table". */
+    private static void wrongTable() {
+        Subject x = Filled.withKeys(5, 6);
+        for (int table : Edges.wrongTables(3)) {
+            x.get(table, 5).isIllegalArgument();
         }
+        x.get(0, 5).isUnsupported();
+        x.get(1, 5).is(5);
+        x.get(2, 5).is(5);
     }
 
-    private static void noNumber() {
-        StampTables x = new StampTables();
-        x.put(0, 5, 0, 3);
-        x.delete(1, 5, 4);
-        Check.due("get(1, 5), the number 0", 0, () -> x.get(1, 5));
-        Check.dueUnsupported("get(0, 5), never written", () -> x.get(0, 5));
-        Check.dueUnsupported("get(2, 5), deleted", () -> x.get(2, 5));
-        Check.dueUnsupported("get(2, 4), beside it", () -> x.get(2, 4));
-    }
-
-    private static void wrongArguments() {
-        StampTables x = Filled.withKeys(5);
-        Check.dueIllegalArgument("get(-1, 5)", () -> x.get(-1, 5));
-        Check.dueIllegalArgument("get(2, 5)", () -> x.get(2, 5));
-        Check.dueIllegalArgument("get(400, 5)", () -> x.get(400, 5));
-        Check.dueIllegalArgument("get(1, -1)", () -> x.get(1, -1));
-        Check.dueIllegalArgument("get(1, 1024)", () -> x.get(1, 1024));
-        Check.dueIllegalArgument("get(1, 1029), 5 behind the end", () -> x.get(1, 1029));
+    /** "IllegalArgumentException: .. key". */
+    private static void wrongKey() {
+        Subject x = Filled.withKeys(0, 5, 1023);
+        for (int key : Edges.WRONG_KEYS) {
+            x.get(3, key).isIllegalArgument();
+        }
+        x.get(3, 0).is(0);
+        x.get(3, 1023).is(1023);
     }
 }

@@ -1,43 +1,49 @@
-/** Promise 5: stamp tells the stamp of the change that wrote a key last. */
+/** Promise 5: stamp. */
 final class StampTest {
     public static void main(String[] args) {
-        everyKeyOfEveryTable();
-        lastChangeCounts();
-        wrongArguments();
+        theStampOfAKey();
+        keysWithoutNumbersHaveOneToo();
+        wrongTable();
+        wrongKey();
         Check.end();
     }
 
-    private static void everyKeyOfEveryTable() {
-        StampTables x = Filled.toTheLimit();
-        for (int t = 0; t < Filled.LIMIT; t += 57) {
-            int table = t;
-            for (int k = 0; k <= 1023; k++) {
-                int key = k;
-                Check.due("stamp(" + table + ", " + key + ")", key < table ? key : -1, () -> x.stamp(table, key));
-            }
+    /** "The STAMP of a KEY." */
+    private static void theStampOfAKey() {
+        Filled.lookAtEveryKey((x, table, key) -> x.stamp(table, key).is(key < table ? key : -1));
+    }
+
+    private static void keysWithoutNumbersHaveOneToo() {
+        Subject x = new Subject();
+        x.put(0, 5, 7, 1000000000).is(1);
+        x.put(1, 5, 7, 0).is(2);
+        x.delete(2, 5, 12).is(3);
+        x.put(2, 5, 7, 11).is(4);
+        x.stamp(0, 5).is(-1);
+        x.stamp(1, 5).is(1000000000);
+        x.stamp(2, 5).is(0);
+        x.stamp(3, 5).is(12);
+        x.stamp(4, 5).is(11);
+        x.stamp(4, 4).is(-1);
+    }
+
+    /** "IllegalArgumentException: table". */
+    private static void wrongTable() {
+        Subject x = Filled.withKeys(5, 6);
+        for (int table : Edges.wrongTables(3)) {
+            x.stamp(table, 5).isIllegalArgument();
         }
+        x.stamp(0, 5).is(-1);
+        x.stamp(2, 5).is(0);
     }
 
-    private static void lastChangeCounts() {
-        StampTables x = new StampTables();
-        x.put(0, 5, 7, 1000000000);
-        x.put(1, 5, 7, 0);
-        x.delete(2, 5, 12);
-        x.put(2, 5, 7, 11);
-        Check.due("stamp(0, 5)", -1, () -> x.stamp(0, 5));
-        Check.due("stamp(1, 5)", 1000000000, () -> x.stamp(1, 5));
-        Check.due("stamp(2, 5)", 0, () -> x.stamp(2, 5));
-        Check.due("stamp(3, 5)", 12, () -> x.stamp(3, 5));
-        Check.due("stamp(4, 5)", 11, () -> x.stamp(4, 5));
-        Check.due("stamp(4, 4), beside it", -1, () -> x.stamp(4, 4));
-    }
-
-    private static void wrongArguments() {
-        StampTables x = Filled.withKeys(5);
-        Check.dueIllegalArgument("stamp(-1, 5)", () -> x.stamp(-1, 5));
-        Check.dueIllegalArgument("stamp(2, 5)", () -> x.stamp(2, 5));
-        Check.dueIllegalArgument("stamp(400, 5)", () -> x.stamp(400, 5));
-        Check.dueIllegalArgument("stamp(1, -1)", () -> x.stamp(1, -1));
-        Check.dueIllegalArgument("stamp(1, 1024)", () -> x.stamp(1, 1024));
+    /** "IllegalArgumentException: .. key". */
+    private static void wrongKey() {
+        Subject x = Filled.withKeys(0, 5, 1023);
+        for (int key : Edges.WRONG_KEYS) {
+            x.stamp(3, key).isIllegalArgument();
+        }
+        x.stamp(3, 0).is(0);
+        x.stamp(3, 1023).is(0);
     }
 }

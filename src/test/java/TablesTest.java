@@ -1,36 +1,50 @@
-/** Promise 9: tables tells how many tables there are. */
+/** Promise 9: tables. */
 final class TablesTest {
     public static void main(String[] args) {
-        changesCountAndLooksDoNot();
-        upToFourHundred();
+        changesCount();
+        looksDoNotCount();
+        refusedChangesDoNotCount();
+        upTo400();
         Check.end();
     }
 
-    private static void changesCountAndLooksDoNot() {
-        StampTables x = new StampTables();
-        Check.due("tables()", 1, () -> x.tables());
-        x.put(0, 5, 7, 3);
-        Check.due("tables() after put", 2, () -> x.tables());
-        x.delete(0, 5, 3);
-        Check.due("tables() after delete", 3, () -> x.tables());
-        x.get(1, 5);
-        x.stamp(1, 5);
-        x.part(1, 0, 1023, 0);
-        x.at(1, 0);
-        x.differ(0, 1);
-        Check.due("tables() after looks", 3, () -> x.tables());
-        Check.dueIllegalArgument("put(3, 0, 0, 0)", () -> x.put(3, 0, 0, 0));
-        Check.due("tables() after a throw", 3, () -> x.tables());
+    /** "How many TABLES there are." */
+    private static void changesCount() {
+        Subject x = new Subject();
+        x.tables().is(1);
+        x.put(0, 5, 7, 3).is(1);
+        x.tables().is(2);
+        x.delete(0, 5, 3).is(2);
+        x.tables().is(3);
+        x.tables().is(3);
     }
 
-    private static void upToFourHundred() {
-        StampTables x = new StampTables();
-        for (int i = 1; i < 400; i++) {
-            int want = i + 1;
-            x.put(0, 0, 0, 0);
-            Check.due("tables()", want, () -> x.tables());
+    private static void looksDoNotCount() {
+        Subject x = Filled.withKeys(5);
+        x.get(1, 5).is(5);
+        x.stamp(1, 5).is(0);
+        x.part(1, 0, 1023, 0).is(1);
+        x.at(1, 0).is(5);
+        x.differ(0, 1).is(1);
+        x.tables().is(2);
+    }
+
+    private static void refusedChangesDoNotCount() {
+        Subject x = new Subject();
+        x.put(1, 0, 0, 0).isIllegalArgument();
+        x.tables().is(1);
+        x.delete(0, 1024, 0).isIllegalArgument();
+        x.tables().is(1);
+    }
+
+    /** One, all numbers between, 400, and never more. */
+    private static void upTo400() {
+        for (int tables = 1; tables <= 400; tables++) {
+            Filled.upTo(tables).tables().is(tables);
         }
-        Check.dueIndexOutOfBounds("put(0, 0, 0, 0)", () -> x.put(0, 0, 0, 0));
-        Check.due("tables() when full", 400, () -> x.tables());
+        Subject x = Filled.toTheLimit();
+        x.put(0, 0, 0, 0).isIndexOutOfBounds();
+        x.delete(0, 0, 0).isIndexOutOfBounds();
+        x.tables().is(400);
     }
 }
