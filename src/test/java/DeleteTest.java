@@ -79,7 +79,7 @@ final class DeleteTest {
         x.delete(2, 5, 0).is(3);
     }
 
-    /** "Likewise", so "IllegalArgumentException: key". */
+    /** "Likewise", so "IllegalArgumentException: .. key". */
     private static void wrongKey() {
         Subject x = new Subject();
         for (int key : Edges.WRONG_KEYS) {
@@ -89,7 +89,7 @@ final class DeleteTest {
         x.delete(0, 1023, 0).is(2);
     }
 
-    /** "Likewise", so "IllegalArgumentException: stamp". */
+    /** "Likewise", so "IllegalArgumentException: .. stamp". */
     private static void wrongStamp() {
         Subject x = new Subject();
         for (int stamp : Edges.WRONG_STAMPS) {

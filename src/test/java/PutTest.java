@@ -88,7 +88,7 @@ final class PutTest {
         x.put(2, 5, 0, 0).is(3);
     }
 
-    /** "IllegalArgumentException: key". */
+    /** "IllegalArgumentException: .. key". */
     private static void wrongKey() {
         Subject x = new Subject();
         for (int key : Edges.WRONG_KEYS) {
@@ -98,7 +98,7 @@ final class PutTest {
         x.put(0, 1023, 0, 0).is(2);
     }
 
-    /** "IllegalArgumentException: stamp". */
+    /** "IllegalArgumentException: .. stamp". */
     private static void wrongStamp() {
         Subject x = new Subject();
         for (int stamp : Edges.WRONG_STAMPS) {
